@@ -299,7 +299,7 @@ public final class CodeSmith {
 
         void rewind() {
             line = 0;
-            lineEnd = -1;
+            lineEnd = NONE;
         }
 
         /** Whether there was one more line; its first token is at hand then. */
@@ -784,6 +784,7 @@ public final class CodeSmith {
             }
         }
 
+        /** What stands in brackets; where the bracket is too deep, or none, the token at hand is the wrong one. */
         private int bracketed(int depth) {
             if (depth >= BRACKET_LIMIT) {
                 tokens.fail(tokens.start, WRONG_TOKEN);
