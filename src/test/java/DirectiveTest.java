@@ -20,6 +20,7 @@ public final class DirectiveTest {
     private static void spaceAndAlign() {
         Bench.bytes(".byte 1\n.space 3\n.byte 2", 1, 0, 0, 0, 2);
         Bench.bytes(".space 0\n.byte 2", 2);
+        Bench.bytes(".space 1|2\n.align 2|0\n.byte 2", 0, 0, 0, 0, 2);
         Bench.bytes(".byte 1\n.align 0\n.byte 2\n.align 1\n.byte 3\n.align 2\n.byte 4\n.align 3\n.align 3\n.byte 5",
             1, 2, 3, 0, 4, 0, 0, 0, 5);
         Bench.bytes(".equ k, 1\n.byte 1\n.align k+k-1\n.space k*2\nb: .byte b", 1, 0, 0, 0, 4);
@@ -37,6 +38,7 @@ public final class DirectiveTest {
         Bench.words(".data\nd: .word d, .\n", 0, 0);
         Bench.words(".data\nd: .word d\ne: .word e-d, .\n.text\nnop", 19, 4096, 4, 4100);
         Bench.words(".data\nnop\nb: j b", 19, 0x0000006f);
+        Bench.bytes(".data\n.byte 1\n.text\nnop\n.half -1\n.byte -1, 5", 19, 0, 0, 0, 255, 255, 255, 5, 1);
         CodeSmith smith = Bench.made(".space 4096\n.data\nd: .word d");
         Bench.due("d", Bench.number(smith, 116 + 4096, 4), 4096);
         smith = Bench.made(".space 4097\n.data\nd: .word d");

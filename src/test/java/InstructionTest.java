@@ -2,6 +2,7 @@
 public final class InstructionTest {
     public static void main(String[] args) {
         registers();
+        bare();
         wide();
         edges();
         Bench.finish();
@@ -102,6 +103,45 @@ public final class InstructionTest {
         encodes("sltz x31, zero", 0x00002fb3);
         encodes("sgtz x5, x6", 0x006022b3);
         encodes("fence", 15);
+    }
+
+    /** With x0 and 0 alone nothing but op, f and g is left. */
+    private static void bare() {
+        String[] loads = {"lb", "lh", "lw", "", "lbu", "lhu"};
+        String[] stores = {"sb", "sh", "sw"};
+        String[] immediates = {"addi", "", "slti", "sltiu", "xori", "", "ori", "andi"};
+        String[] branches = {"beq", "bne", "", "", "blt", "bge", "bltu", "bgeu"};
+        String[] turned = {"", "", "", "", "bgt", "ble", "bgtu", "bleu"};
+        String[] zero = {"beqz", "bnez", "", "", "bltz", "bgez"};
+        String[] zeroFirst = {"", "", "", "", "bgtz", "blez"};
+        bare(loads, "x0, 0(x0)", 3);
+        bare(stores, "x0, 0(x0)", 35);
+        bare(immediates, "x0, x0, 0", 19);
+        bare(branches, "x0, x0, .", 99);
+        bare(turned, "x0, x0, .", 99);
+        bare(zero, "x0, .", 99);
+        bare(zeroFirst, "x0, .", 99);
+        encodes("slli x0, x0, 0", 0x00001013);
+        encodes("srli x0, x0, 0", 0x00005013);
+        encodes("srai x0, x0, 0", 0x40005013);
+        encodes("lui x0, 0", 0x00000037);
+        encodes("auipc x0, 0", 0x00000017);
+        encodes("jal x0, .", 0x0000006f);
+        encodes("jal .", 0x000000ef);
+        encodes("j .", 0x0000006f);
+        encodes("call .", 0x000000ef);
+        encodes("jalr x0, 0(x0)", 0x00000067);
+        encodes("jalr x0", 0x000000e7);
+        encodes("addi x0, x0, 8|1^0&3<<0+4*5", 0x00900013);
+        encodes("lw x0, 8|1(x0)", 0x00902003);
+    }
+
+    private static void bare(String[] names, String operands, int op) {
+        for (int f = 0; f < names.length; f++) {
+            if (!names[f].isEmpty()) {
+                encodes(names[f] + " " + operands, op | f << 12);
+            }
+        }
     }
 
     private static void wide() {
