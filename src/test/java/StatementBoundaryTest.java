@@ -6,6 +6,7 @@ public final class StatementBoundaryTest {
         lowestBytes();
         lists();
         spaces();
+        zerosBehindInstructions();
         aligns();
         wrongAligns();
         earlyNames();
@@ -59,6 +60,20 @@ public final class StatementBoundaryTest {
         }
         Bench.made(".space 4294967296");
         Bench.bytes(".byte 1\n.space 2\n.byte 3", 1, 0, 0, 3);
+    }
+
+    /** The bytes 0 are 0 whatever lies before them, and an instruction takes no byte of the other section. */
+    private static void zerosBehindInstructions() {
+        String[] instructions = {"add x1, x2, x3", "addi x1, x2, -1", "slli x1, x2, 31", "lw x1, -1(x2)", "sw x1, -1(x2)",
+            "beq x1, x2, .-2", "lui x1, 1048575", "jal .-2", "jalr x1, -1(x2)", "li x1, -1", "la x1, -1", "ebreak", ".word -1"};
+        for (String instruction : instructions) {
+            for (String zeros : new String[] {".space 4", ".space 1\n.align 2"}) {
+                CodeSmith smith = Bench.made(instruction + "\n" + zeros);
+                Bench.due(instruction + ": bytes 0", Bench.number(smith, 84 + smith.about(1) - 4, 4), 0);
+            }
+            CodeSmith smith = Bench.made(".data\n.word 0x01020304\n.text\n" + instruction);
+            Bench.due(instruction + ": .data", Bench.number(smith, 116 + smith.about(1), 4), 0x01020304);
+        }
     }
 
     /** ".align e (bytes 0 up to an address divided by 2 to the power e, 0 .. 12)". */

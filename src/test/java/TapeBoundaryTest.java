@@ -9,6 +9,7 @@ public final class TapeBoundaryTest {
         roomForTwenty();
         refusedFeedChangesNothing();
         firstBytesAlone();
+        bytesBehindTheEnd();
         refusedEndChangesNothing();
         sizeBehindEveryCall();
         emptyBehindAssemble();
@@ -117,6 +118,43 @@ public final class TapeBoundaryTest {
         Bench.feed(smith, "9");
         Bench.due("assemble", Bench.assemble(smith), 85);
         Bench.due("the byte", smith.image(84), 19);
+    }
+
+    /** What was on the tape behind its end, now or in an earlier text, does not make a token longer. */
+    private static void bytesBehindTheEnd() {
+        cut(".byte 0x1", 7, 0, 0);
+        cut(".byte 12", 7, 1, 0);
+        cut(".byte ..", 7, 0, 0);
+        cut(".byte 2<<3", 8, 8, 1);
+        cut(".byte 2>>3", 8, 8, 1);
+        cut(".byte 'a'", 8, 8, 1);
+        cut(".byte '\\n'", 8, 8, 1);
+        cut(".byte 0x1", 8, 8, 1);
+        cut(".ascii \"a\"", 9, 9, 1);
+        cut(".ascii \"\\n\"", 9, 9, 1);
+        cut("a: .byte 1", 1, 0, 3);
+        cut("nop_", 3, 19, 0);
+        cut("nop @", 4, 19, 0);
+        cut("a:", 1, 0, 3);
+        cut("foo\n", 3, 0, 3);
+    }
+
+    /** The text's first n bytes alone make this first byte of .text, or are refused at that place. */
+    private static void cut(String text, int n, int answer, int kind) {
+        CodeSmith smith = new CodeSmith();
+        Bench.feed(smith, text);
+        Bench.due("end", smith.end(n), true);
+        checkCut(text, smith, answer, kind);
+        Bench.feed(smith, text);
+        Bench.assemble(smith);
+        Bench.feed(smith, text.substring(0, n));
+        checkCut(text, smith, answer, kind);
+    }
+
+    private static void checkCut(String text, CodeSmith smith, int answer, int kind) {
+        Bench.due(text + ": thrown", Bench.assemble(smith) < 0, kind != 0);
+        Bench.due(text + ": kind", smith.error(2), kind);
+        Bench.due(text + ": place or byte", kind == 0 ? smith.image(84) : smith.error(1), answer);
     }
 
     /** "false if it has less, or n is below 0": and the tape stays. */

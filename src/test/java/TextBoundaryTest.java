@@ -7,11 +7,13 @@ public final class TextBoundaryTest {
         lastLine();
         emptyLines();
         longestText();
+        everyByteAToken();
         blanks();
         comments();
         nameBegins();
         nameGoesOn();
         nameLengths();
+        namesThatDifferInOneByte();
         pointAlone();
         decimals();
         hexDigits();
@@ -22,6 +24,8 @@ public final class TextBoundaryTest {
         stringEscapes();
         stringLengths();
         labels();
+        signsBefore();
+        signsInOrder();
         divisions();
         shifts();
         wraps();
@@ -82,6 +86,15 @@ public final class TextBoundaryTest {
         Bench.words(Bench.times(" ", most - 3) + "nop", 19);
         Bench.due("labels of one line", Bench.made(manyLabels(2000)).about(3), 2000);
         Bench.due("bytes of one line", Bench.made(".byte 1" + Bench.times(",1", most / 2 - 4)).about(1), most / 2 - 3);
+    }
+
+    /** A line has as many tokens as bytes, and its end: for lines of every length round what a row may hold. */
+    private static void everyByteAToken() {
+        for (int signs = 1; signs < 300; signs++) {
+            Bench.words("j" + Bench.times("-", signs) + ".", 0x0000006f);
+            Bench.refused("j" + Bench.times("+", signs), 1, signs + 1, 1);
+            Bench.refused("j" + Bench.times("~", signs) + ".,", 1, signs + 2, 1);
+        }
     }
 
     private static String manyLabels(int count) {
@@ -185,6 +198,22 @@ public final class TextBoundaryTest {
         Bench.refused(most + "a:\n" + most + "a:", 2, 0, 2);
         Bench.refused(Bench.times(".", 33), 1, 32, 1);
         Bench.refused(Bench.times(".", 32), 1, 0, 3);
+    }
+
+    private static void namesThatDifferInOneByte() {
+        String bytes = "ABCDEFGHIJKLMNOPQRSTUVWXYZabcdefghijklmnopqrstuvwxyz_.";
+        for (String frame : new String[] {"?qq", "q?q", "qq?", "?qqqq", "qq?qq", "qqqq?", "?qqqqqqqqqqqqqqq", "q?qqqqqqqqqqqqqq"}) {
+            StringBuilder text = new StringBuilder();
+            int[] want = new int[bytes.length()];
+            for (int i = 0; i < want.length; i++) {
+                text.append(".equ ").append(frame.replace('?', bytes.charAt(i))).append(',').append(i + 1).append('\n');
+            }
+            for (int i = 0; i < want.length; i++) {
+                text.append(".byte ").append(frame.replace('?', bytes.charAt(i))).append('\n');
+                want[i] = i + 1;
+            }
+            Bench.bytes(text.toString(), want);
+        }
     }
 
     /** "a . by itself is none, but a sign". */
@@ -348,6 +377,56 @@ public final class TextBoundaryTest {
         Bench.refused("a: 1:", 1, 3, 1);
         Bench.words("a: nop:", new int[0]);
         Bench.refused("a: nop:b", 1, 7, 3);
+    }
+
+    /** "- + ~ before one of these": before each of them. */
+    private static void signsBefore() {
+        String[] operands = {"6", "a", ".", "(6)", "%hi(0x6000)", "%lo(6)", "'\\t'"};
+        int[] values = {6, 4, 4, 6, 6, 6, 9};
+        for (int i = 0; i < operands.length; i++) {
+            Bench.words("nop\na: .word " + operands[i], 19, values[i]);
+            Bench.words("nop\na: .word +" + operands[i], 19, values[i]);
+            Bench.words("nop\na: .word -" + operands[i], 19, -values[i]);
+            Bench.words("nop\na: .word ~" + operands[i], 19, ~values[i]);
+            Bench.words("nop\na: .word 2*-" + operands[i] + "+1", 19, 1 - 2 * values[i]);
+            Bench.words("nop\na: .word 2*~" + operands[i] + "+1", 19, 1 + 2 * ~values[i]);
+        }
+    }
+
+    private static final String[] SIGNS = {"*", "/", "%", "+", "-", "<<", ">>", "&", "^", "|"};
+    private static final int[] LEVELS = {0, 0, 0, 1, 1, 2, 2, 3, 4, 5};
+
+    /** "the earlier ones first, from the left to the right": every sign before every other. */
+    private static void signsInOrder() {
+        int[][] triples = {{13, 6, 3}, {-100, 7, 2}, {6, 1, 1}, {1, 1, 5}, {77, 12, 10}, {-1, 3, 4}};
+        for (int one = 0; one < SIGNS.length; one++) {
+            for (int other = 0; other < SIGNS.length; other++) {
+                for (int[] t : triples) {
+                    String text = t[0] + SIGNS[one] + t[1] + SIGNS[other] + t[2];
+                    boolean left = LEVELS[one] <= LEVELS[other];
+                    int inner = left ? 0 : reckon(other, t[1], t[2]);
+                    boolean byZero = !left && inner == 0 && (one == 1 || one == 2);
+                    if (!byZero) {
+                        is(text, left ? reckon(other, reckon(one, t[0], t[1]), t[2]) : reckon(one, t[0], inner));
+                    }
+                }
+            }
+        }
+    }
+
+    private static int reckon(int sign, int x, int y) {
+        switch (SIGNS[sign]) {
+            case "*": return x * y;
+            case "/": return x / y;
+            case "%": return x % y;
+            case "+": return x + y;
+            case "-": return x - y;
+            case "<<": return x << y;
+            case ">>": return x >> y;
+            case "&": return x & y;
+            case "^": return x ^ y;
+            default: return x | y;
+        }
     }
 
     /** "/ and % towards 0, the least int by -1 is itself, 0". */
