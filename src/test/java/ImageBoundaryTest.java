@@ -52,8 +52,8 @@ public final class ImageBoundaryTest {
 
     /** ".data is a part only if it has bytes; .text always." */
     private static void dataOnlyWithBytes() {
-        for (String none : new String[] {"", ".data", ".data\na:", ".data\n.space 0", ".data\n.ascii \"\"", ".data\n.align 12",
-            ".data\n.equ k, 1"}) {
+        for (String none : new String[] {"", ".data", ".data\na:", ".data\n.space 0", ".data\n.ascii \"\"",
+            ".data\n.align 12", ".data\n.equ k, 1"}) {
             CodeSmith smith = Bench.made(none);
             Bench.due(none + ": parts", Bench.number(smith, 44, 2), 1);
             Bench.due(none + ": size", smith.about(0), 84);
@@ -186,7 +186,8 @@ public final class ImageBoundaryTest {
         for (int turn = 1; turn <= 102; turn++) {
             // ".space 20000", a byte 10 and "nop", or "noq", which is none.
             boolean right = turn % 3 != 0;
-            Bench.due("feed", smith.feed(0x2e737061, 0x63652032, 0x30303030, right ? 0x0a6e6f70 : 0x0a6e6f71, 0x0a0a0a0a), true);
+            int last = right ? 0x0a6e6f70 : 0x0a6e6f71;
+            Bench.due("feed", smith.feed(0x2e737061, 0x63652032, 0x30303030, last, 0x0a0a0a0a), true);
             Bench.due("end", smith.end(16), true);
             Bench.due("assemble", Bench.assemble(smith), right ? 84 + 20004 : -1);
             Bench.due("error", smith.error(0), right ? 0 : 2);

@@ -65,7 +65,8 @@ public final class StatementBoundaryTest {
     /** The bytes 0 are 0 whatever lies before them, and an instruction takes no byte of the other section. */
     private static void zerosBehindInstructions() {
         String[] instructions = {"add x1, x2, x3", "addi x1, x2, -1", "slli x1, x2, 31", "lw x1, -1(x2)", "sw x1, -1(x2)",
-            "beq x1, x2, .-2", "lui x1, 1048575", "jal .-2", "jalr x1, -1(x2)", "li x1, -1", "la x1, -1", "ebreak", ".word -1"};
+            "beq x1, x2, .-2", "lui x1, 1048575", "jal .-2", "jalr x1, -1(x2)", "li x1, -1", "la x1, -1", "ebreak",
+            ".word -1"};
         for (String instruction : instructions) {
             for (String zeros : new String[] {".space 4", ".space 1\n.align 2"}) {
                 CodeSmith smith = Bench.made(instruction + "\n" + zeros);
@@ -137,7 +138,8 @@ public final class StatementBoundaryTest {
         atLimit(".space 1", 1);
         atLimit(".space 65420", LIMIT);
         String[] four = {"nop", "add x1, x2, x3", "addi x1, x2, 3", "slli x1, x2, 3", "lw x1, (x2)", "sw x1, 4(x2)",
-            "beq x1, x2, .", "beqz x1, .", "lui x1, 5", "jal .", "jalr x1", "j .", "ret", "fence", "mv x1, x2", "li x1, 2047"};
+            "beq x1, x2, .", "beqz x1, .", "lui x1, 5", "jal .", "jalr x1", "j .", "ret", "fence", "mv x1, x2",
+            "li x1, 2047"};
         for (String statement : four) {
             Bench.made(".space 65416\n" + statement);
             Bench.refused(".space 65420\na: " + statement, 2, 3, 6);

@@ -202,7 +202,8 @@ public final class TextBoundaryTest {
 
     private static void namesThatDifferInOneByte() {
         String bytes = "ABCDEFGHIJKLMNOPQRSTUVWXYZabcdefghijklmnopqrstuvwxyz_.";
-        for (String frame : new String[] {"?qq", "q?q", "qq?", "?qqqq", "qq?qq", "qqqq?", "?qqqqqqqqqqqqqqq", "q?qqqqqqqqqqqqqq"}) {
+        String[] frames = {"?qq", "q?q", "qq?", "?qqqq", "qq?qq", "qqqq?", "?qqqqqqqqqqqqqqq", "q?qqqqqqqqqqqqqq"};
+        for (String frame : frames) {
             StringBuilder text = new StringBuilder();
             int[] want = new int[bytes.length()];
             for (int i = 0; i < want.length; i++) {
@@ -530,7 +531,8 @@ public final class TextBoundaryTest {
             Bench.refused(".equ " + last[i] + ", 1", 1, 5, 2);
             Bench.refused(".word " + last[i], 1, 6, 8);
         }
-        for (String none : new String[] {"x32", "x99", "x00", "x031", "a8", "a10", "s12", "s02", "t7", "t10", "X0", "ZERO"}) {
+        String[] nones = {"x32", "x99", "x00", "x031", "a8", "a10", "s12", "s02", "t7", "t10", "X0", "ZERO"};
+        for (String none : nones) {
             Bench.refused("jr " + none, 1, 3, 1);
             Bench.words(none + ": .equ " + none + ".k, 5\n.word " + none + "+" + none + ".k", 5);
         }
